@@ -343,7 +343,9 @@ public final class CoroutineScheduler {
         }
 
         void change(int index, int difference) {
-            put(index, at(index) + difference);
+            if (index >= 0 && index < cells.length) {
+                cells[index] += difference;
+            }
         }
 
         void clear() {
@@ -359,13 +361,11 @@ public final class CoroutineScheduler {
 
     /** Ints in the order in which they were added, at most as many as the line was made for. */
     private static final class Line {
-        private final Row cells;
-        private final int most;
+        private final int[] cells;
         private int size;
 
         Line(int most) {
-            this.most = most;
-            cells = new Row(most);
+            cells = new int[Math.max(most, 0)];
         }
 
         int size() {
@@ -377,20 +377,20 @@ public final class CoroutineScheduler {
         }
 
         int at(int index) {
-            return has(index) ? cells.at(index) : NONE;
+            return index >= 0 && index < size && index < cells.length ? cells[index] : NONE;
         }
 
         void add(int value) {
-            if (size < most) {
-                cells.put(size, value);
+            if (size >= 0 && size < cells.length) {
+                cells[size] = value;
                 size++;
             }
         }
 
         int takeFirst() {
             int first = at(0);
-            for (int index = 1; index < size; index++) {
-                cells.put(index - 1, cells.at(index));
+            for (int index = 1; index < size && index < cells.length; index++) {
+                cells[index - 1] = cells[index];
             }
             size = Math.max(size - 1, 0);
             return first;
@@ -401,7 +401,8 @@ public final class CoroutineScheduler {
         }
 
         void copy(Line other) {
-            cells.copy(other.cells);
+            int most = Math.min(cells.length, other.cells.length);
+            System.arraycopy(other.cells, 0, cells, 0, most);
             size = Math.min(other.size, most);
         }
     }
@@ -433,11 +434,12 @@ public final class CoroutineScheduler {
         }
 
         int at(int list, int place) {
-            return place >= 0 && place < length(list) ? cells.at(list * MOST_INSTRUCTIONS + place) : 0;
+            boolean there = place >= 0 && place < lengths.at(list);
+            return there ? cells.at(list * MOST_INSTRUCTIONS + place) : 0;
         }
 
         void add(int list, int instruction) {
-            int place = length(list);
+            int place = lengths.at(list);
             if (place < MOST_INSTRUCTIONS) {
                 cells.put(list * MOST_INSTRUCTIONS + place, instruction);
                 lengths.put(list, place + 1);
@@ -538,6 +540,11 @@ public final class CoroutineScheduler {
         int scopeAt(int task, int level) {
             boolean open = level >= 0 && level < depth.at(task);
             return open ? openScopes.at(task * MOST_LEVELS + level) : NONE;
+        }
+
+        /** The level of the innermost open scope, or NONE. */
+        int innermostLevel(int task) {
+            return depth.at(task) - 1;
         }
 
         int innermost(int task) {
@@ -1215,8 +1222,10 @@ public final class CoroutineScheduler {
             int task = world.queue.takeFirst();
             if (tasks.executesCleanup(task)) {
                 continueCleanup(task);
+            } else if (tasks.hasReason(task) && tasks.depth.at(task) > 0) {
+                leaveInnermost(task);
             } else if (tasks.hasReason(task)) {
-                obeyReason(task);
+                endTask(task, tasks.reason.at(task) == FAILURE ? FAILED : CANCELLED);
             } else if (tasks.place.at(task) >= tasks.code.length(task)) {
                 endTask(task, DONE);
             } else {
@@ -1253,20 +1262,12 @@ public final class CoroutineScheduler {
             tasks.cleanupPlace.put(task, NONE);
             int reason = tasks.reason.at(task);
             if (reason == NO_REASON) {
-                world.fail(task, code, NONE, tasks.depth.at(task) - 2);
+                world.fail(task, code, NONE, tasks.innermostLevel(task) - 1);
             } else if (reason == FAILURE) {
                 int failure = world.failures.add(code, task, tasks.failure.at(task));
                 tasks.failure.put(task, failure);
             } else {
                 world.counts.change(SUPPRESSED, 1);
-            }
-        }
-
-        private void obeyReason(int task) {
-            if (tasks.depth.at(task) > 0) {
-                leaveInnermost(task);
-            } else {
-                endTask(task, tasks.reason.at(task) == FAILURE ? FAILED : CANCELLED);
             }
         }
 
@@ -1368,7 +1369,7 @@ public final class CoroutineScheduler {
                     exchange.choose(task, operand / 10, operand % 10);
                     break;
                 case '!':
-                    fail(task, operand);
+                    world.fail(task, operand, NONE, tasks.innermostLevel(task));
                     break;
                 default:
                     executeSimple(task, sign, operand);
@@ -1386,10 +1387,6 @@ public final class CoroutineScheduler {
             }
         }
 
-        private void fail(int task, int code) {
-            world.fail(task, code, NONE, tasks.depth.at(task) - 1);
-        }
-
         private void closeScope(int task) {
             if (endScope(task, tasks.innermost(task))) {
                 tasks.place.change(task, 1);
@@ -1398,7 +1395,7 @@ public final class CoroutineScheduler {
 
         private void openScope(int task, int sign, int units) {
             if (scopes.made >= MOST_SCOPES) {
-                fail(task, NO_SCOPE_LEFT);
+                world.fail(task, NO_SCOPE_LEFT, NONE, tasks.innermostLevel(task));
                 return;
             }
             int kind = sign == '{' ? GUARD : sign == '[' ? TIMED : PLAIN;
@@ -1416,7 +1413,7 @@ public final class CoroutineScheduler {
         private void startChild(int task, int program) {
             int scope = tasks.innermost(task);
             if (world.startTask(program, scope) == NONE) {
-                fail(task, NO_TASK_LEFT);
+                world.fail(task, NO_TASK_LEFT, NONE, tasks.innermostLevel(task));
             } else {
                 scopes.addChild(scope);
             }

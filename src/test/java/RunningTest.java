@@ -4,6 +4,7 @@ public final class RunningTest {
 
     public static void main(String[] args) {
         reset();
+        resetLeavesNothing();
         start();
         startKeepsProgram();
         cancel();
@@ -48,6 +49,36 @@ public final class RunningTest {
         t.run(9, 2);
         t.failure(0, 0, 2, 0);
         t.noFailure(0, 1);
+    }
+
+    private static void resetLeavesNothing() {
+        Trial t = trial("nothing is left after reset").load("0:[9^5(p1-1?01?01w1!3));1:+2>0>0;2:(p3)y;3:y;5:w5;");
+        t.start(0, 0);
+        t.run(17, 17);
+        t.task(0, 8, 1);
+        t.task(0, 5, 2);
+        t.task(0, 3, 1);
+        t.task(0, 7, -1);
+        t.scope(0, 7, 2);
+        t.due("reset()", () -> t.x.reset(), 1);
+        t.start(2, 0);
+        t.start(3, 1);
+        t.start(3, 2);
+        int[] task = {0, 0, 0, 0, -1, 0, 0, -2, 0, -1};
+        for (int what = 0; what < task.length; what++) {
+            t.task(0, what, task[what]);
+            t.task(1, what, task[what]);
+        }
+        t.run(3, 3);
+        int[] scope = {0, 0, 0, 0, 0, 0, -1, 0};
+        for (int what = 0; what < scope.length; what++) {
+            t.scope(0, what, scope[what]);
+        }
+        t.run(1, 1);
+        t.scope(0, 4, 1);
+        t.scope(0, 5, 1);
+        t.run(99, 8);
+        t.next(200);
     }
 
     private static void start() {

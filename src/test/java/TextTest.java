@@ -103,8 +103,11 @@ public final class TextTest {
         t.due("errorPosition()", () -> t.x.errorPosition(), 11);
         t.dueThrow("execute() of nothing", () -> t.x.execute(), Trial.ARGUMENT);
         t.due("errorPosition()", () -> t.x.errorPosition(), 0);
-        t.load("0:;");
+        t.load("1:yy;");
         t.due("errorPosition()", () -> t.x.errorPosition(), -1);
+        t.due("program(0, 0) is still the old one", () -> t.x.program(0, 0), 12100);
+        t.due("program(1, -1)", () -> t.x.program(1, -1), 2);
+        t.channel(0, 0, 0);
     }
 
     private static void executeRefusesRooms() {
