@@ -40,12 +40,34 @@ final class Trial {
         return this;
     }
 
+    /** Another new scheduler under the same name. */
+    Trial another() {
+        return new Trial(checks, name);
+    }
+
+    /** A new scheduler executes the text. */
+    void fits(String text) {
+        another().load(text);
+    }
+
+    /** A new scheduler finds an error in the text, at a position. */
+    void refuses(String text, int position) {
+        Trial t = another();
+        t.write(text);
+        t.dueThrow("execute() of " + text, () -> t.x.execute(), ARGUMENT);
+        t.due("errorPosition() of " + text, () -> t.x.errorPosition(), position);
+    }
+
     void due(String call, Checks.Call answer, long want) {
         checks.due(name + ": " + call, answer, want);
     }
 
     void dueThrow(String call, Checks.Call answer, Class<? extends RuntimeException> want) {
         checks.dueThrow(name + ": " + call, answer, want);
+    }
+
+    void expect(String what, Object got, Object want) {
+        checks.expect(name + ": " + what, "" + got, "" + want);
     }
 
     void start(int program, int want) {
@@ -87,6 +109,76 @@ final class Trial {
 
     void count(int what, int want) {
         due("count(" + what + ")", () -> x.count(what), want);
+    }
+
+    void append(String characters, int want) {
+        due("append of " + characters, () -> x.append(pack(characters)), want);
+    }
+
+    void program(int program, int place, int want) {
+        due("program(" + program + ", " + place + ")", () -> x.program(program, place), want);
+    }
+
+    void reset(int want) {
+        due("reset()", () -> x.reset(), want);
+    }
+
+    void save(int want) {
+        due("save()", () -> x.save(), want);
+    }
+
+    void restore(int want) {
+        due("restore()", () -> x.restore(), want);
+    }
+
+    void errorPosition(int want) {
+        due("errorPosition()", () -> x.errorPosition(), want);
+    }
+
+    void isAbove(int task, int other, boolean want) {
+        due("isAbove(" + task + ", " + other + ")", () -> x.isAbove(task, other) ? 1 : 0, want ? 1 : 0);
+    }
+
+    void scopeOf(int task, int level, int want) {
+        due("scopeOf(" + task + ", " + level + ")", () -> x.scopeOf(task, level), want);
+    }
+
+    /** Compares the properties of a task from 0 on. */
+    void wholeTask(int task, int... want) {
+        for (int what = 0; what < want.length; what++) {
+            task(task, what, want[what]);
+        }
+    }
+
+    /** Compares the properties of a scope from 0 on. */
+    void wholeScope(int scope, int... want) {
+        for (int what = 0; what < want.length; what++) {
+            scope(scope, what, want[what]);
+        }
+    }
+
+    /** Compares all numbers in a channel. */
+    void content(int channel, int... want) {
+        channel(channel, 1, want.length);
+        for (int index = 0; index < want.length; index++) {
+            int here = index;
+            due("content(" + channel + ", " + here + ")", () -> x.content(channel, here), want[here]);
+        }
+        dueThrow("content(" + channel + ", " + want.length + ")", () -> x.content(channel, want.length), ELEMENT);
+    }
+
+    /** Makes all turns that can be made, one hundred at a time, and compares how many there were. */
+    void runAll(int want) {
+        int most = 2000;
+        due("turns to the end", () -> {
+            int made = 0;
+            int last = 100;
+            while (last == 100 && made < most) {
+                last = x.run(100);
+                made += last;
+            }
+            return made;
+        }, want);
     }
 
     /** Compares the whole ready queue. */
