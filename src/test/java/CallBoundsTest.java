@@ -82,16 +82,41 @@ public final class CallBoundsTest {
         t.queue();
         t.endings();
         t.next(200);
+    }
+
+    @Sentence(in = "Promise 6",
+        says = "Removes all tasks and scopes; the time and all counts become 0, and the channels become empty.")
+    static void resetLeavesNothingOfTasks(Trial t) {
+        t.load("0:{^5(p1-1?01?01w1!3));1:+2>0>0;2:(p3)y;3:y;4:!9;", "5:w5;");
+        t.start(0, 0);
+        t.run(17, 17);
+        t.wholeTask(0, 1, 2, 9, 1, -1, 2, 3, 0, 1, 6);
+        t.wholeScope(0, 0, 0, 2, 1, 0, 0, -1, 2);
+        t.wholeScope(1, 0, 1, 0, 2, 0, 1, -1, 0);
+        t.reset(1);
         t.start(2, 0);
+        t.wholeTask(0, 0, 0, 0, 0, -1, 0, 0, -2, 0, -1);
+        t.noFailure(0, 0);
         t.run(1, 1);
-        t.scope(0, 6, 1);
+        t.wholeScope(0, 0, 0, 0, 0, 0, 0, -1, 0);
+        t.start(4, 1);
+        t.run(2, 2);
+        t.wholeScope(0, 0, 0, 0, 0, 1, 1, -1, 0);
+        t.failure(1, 0, 9, 1);
+        t.noFailure(1, 1);
+        t.runAll(7);
+        t.endings(1, 2, 0);
+        t.count(5, 0);
     }
 
     @Sentence(in = "Promise 6", says = "Programs and rooms stay.")
     static void resetKeeps(Trial t) {
         t.load("#02;#33;0:y+1;5:!2;");
         t.start(5, 0);
+        t.write("0:q");
+        t.dueThrow("execute()", () -> t.x.execute(), Trial.ARGUMENT);
         t.reset(1);
+        t.errorPosition(2);
         t.program(0, -1, 2);
         t.program(0, 1, 4301);
         t.program(5, 0, 3302);
@@ -854,6 +879,44 @@ public final class CallBoundsTest {
         t.program(1, -1, 0);
     }
 
+    /** Two cleanups that sleep, a failure with a cause, a chooser behind a receiver, and numbers in a channel. */
+    private static Trial underWay(Trial name) {
+        Trial t = name.another().load("#31;#02;0:+1>3?33?12;1:<2y;2:+5>0w3>2>2;", "3:{(^4!5))+2;4:w1!6;5:{[9^4p4<1)y);");
+        t.start(5, 0);
+        t.run(9, 9);
+        t.start(3, 2);
+        t.start(0, 3);
+        t.start(1, 4);
+        t.start(2, 5);
+        t.run(16, 16);
+        t.next(100);
+        return t;
+    }
+
+    /** Puts other programs, tasks, scopes, failures and numbers in the place of all that there is. */
+    private static void replaceAll(Trial t) {
+        t.reset(5);
+        t.load("#03;#13;#30;0:yyy(({!9)));1:({^3p2p2[2^3[3w9))));2:<1;", "3:-4-4;4:+8>0?13;5:<3;");
+        t.start(0, 0);
+        t.start(0, 1);
+        t.start(1, 2);
+        t.start(5, 3);
+        t.start(4, 4);
+        t.start(2, 5);
+        t.run(31, 31);
+    }
+
+    @Sentence(in = "Promise 21", says = "Saves everything but the buffer and the error position")
+    static void savesEverything(Trial name) {
+        Trial saved = underWay(name);
+        saved.save(6);
+        replaceAll(saved);
+        saved.restore(6);
+        Trial other = underWay(name);
+        name.expect("picture", Busy.picture(saved.x), Busy.picture(other.x));
+        name.expect("course", Busy.course(saved.x), Busy.course(other.x));
+    }
+
     @Sentence(in = "Promise 21", says = "in place of an earlier snapshot")
     static void secondSnapshot(Trial t) {
         t.load("0:+1;");
@@ -906,6 +969,48 @@ public final class CallBoundsTest {
             t.program(0, -1, 2);
             t.dueThrow("task(1, 0)", () -> t.x.task(1, 0), Trial.INDEX);
         }
+    }
+
+    @Sentence(in = "Promise 22", says = "Restores the snapshot, which is kept.")
+    static void snapshotIsKeptWhole(Trial name) {
+        Trial restored = underWay(name);
+        restored.save(6);
+        for (int round = 0; round < 3; round++) {
+            restored.run(100, 17);
+            restored.restore(6);
+        }
+        Trial other = underWay(name);
+        name.expect("picture", Busy.picture(restored.x), Busy.picture(other.x));
+        name.expect("course", Busy.course(restored.x), Busy.course(other.x));
+    }
+
+    @Sentence(in = "Promise 6",
+        says = "Removes all tasks and scopes; the time and all counts become 0, and the channels become empty.")
+    static void resetLeavesNothingOfScopes(Trial t) {
+        t.load("0:(^1p1[9{p2<0)));1:<0;2:!5;3:(({y)));4:!3;");
+        t.start(0, 0);
+        t.run(9, 9);
+        t.wholeScope(0, 0, 0, 0, 0, 1, 1, -1, 1);
+        t.wholeScope(1, 0, 1, 1, 0, 0, 0, 9, 0);
+        t.wholeScope(2, 0, 2, 2, 0, 1, 1, -1, 0);
+        t.run(1, 1);
+        t.failure(0, 0, 10, 0);
+        t.failure(0, 1, 5, 2);
+        t.reset(2);
+        t.start(3, 0);
+        t.start(4, 1);
+        t.start(4, 2);
+        t.run(5, 5);
+        t.wholeScope(0, 0, 0, 0, 0, 0, 0, -1, 0);
+        t.wholeScope(1, 0, 1, 0, 0, 0, 0, -1, 0);
+        t.run(3, 3);
+        t.wholeScope(2, 0, 2, 2, 0, 0, 0, -1, 0);
+        for (int task = 1; task <= 2; task++) {
+            t.failure(task, 0, 3, task);
+            t.noFailure(task, 1);
+        }
+        t.runAll(4);
+        t.count(8, 0);
     }
 
     @Sentence(in = "Promise 22", says = "if there is no snapshot")

@@ -1,14 +1,17 @@
 import java.util.Random;
 
-/** Random runs of calls on the scheduler and on the oracle; after each call their whole states are compared. */
+/** Random runs of 512 calls, as many as an object is used for, on the scheduler and on the oracle. */
 public final class RandomRunsTest {
-    private static final int RUNS = 400;
-    private static final int CALLS = 120;
+    private static final int RUNS = 12000;
+    private static final int CALLS = 512;
+    private static final int QUESTIONS_AFTER_A_CALL = 5;
+    private static final int QUESTIONS_AT_THE_END = 140;
 
     private final Checks checks = new Checks();
     private final Random random;
     private final int seed;
     private final StringBuilder log = new StringBuilder();
+    private int calls;
     private CoroutineScheduler mine;
     private Oracle other;
 
@@ -39,9 +42,14 @@ public final class RandomRunsTest {
             appendText(randomCommand(program));
             both("execute()", () -> mine.execute(), () -> other.execute());
         }
-        for (int call = 0; call < CALLS && checks.wrong() == 0; call++) {
+        while (calls < CALLS - QUESTIONS_AT_THE_END && checks.wrong() == 0) {
             randomCall();
-            compareStates();
+            for (int asked = 0; asked < QUESTIONS_AFTER_A_CALL; asked++) {
+                randomQuestion();
+            }
+        }
+        while (calls < CALLS) {
+            randomQuestion();
         }
         if (checks.wrong() > 0) {
             System.out.println("seed " + seed + ": " + log);
@@ -195,67 +203,66 @@ public final class RandomRunsTest {
     }
 
     private void both(String name, Checks.Call first, Checks.Call second) {
+        calls++;
         String due = Checks.answerOf(second);
         log.append(name).append(' ').append(due).append("; ");
         checks.expect(name, Checks.answerOf(first), due);
     }
 
-    private void same(String name, Checks.Call first, Checks.Call second) {
-        checks.expect(name, Checks.answerOf(first), Checks.answerOf(second));
+    private void randomQuestion() {
+        int kind = upTo(99);
+        int task = upTo(Math.min(other.count(0), 23));
+        int scope = upTo(Math.min(other.count(3), 59));
+        if (kind < 10) {
+            int what = upTo(12);
+            both("count(" + what + ")", () -> mine.count(what), () -> other.count(what));
+        } else if (kind < 40) {
+            int what = upTo(9);
+            both("task(" + task + ", " + what + ")", () -> mine.task(task, what), () -> other.task(task, what));
+        } else if (kind < 55) {
+            int what = upTo(7);
+            both("scope(" + scope + ", " + what + ")", () -> mine.scope(scope, what), () -> other.scope(scope, what));
+        } else if (kind < 70) {
+            int depth = upTo(upTo(1) == 0 ? 0 : 5);
+            int what = upTo(1);
+            both("failure(" + task + ", " + depth + ", " + what + ")", () -> mine.failure(task, depth, what),
+                () -> other.failure(task, depth, what));
+        } else {
+            randomOtherQuestion(kind, task);
+        }
     }
 
-    private void compareStates() {
-        same("next()", () -> mine.next(), () -> other.next());
-        same("errorPosition()", () -> mine.errorPosition(), () -> other.errorPosition());
-        for (int what = 0; what <= 12; what++) {
-            int w = what;
-            same("count " + w, () -> mine.count(w), () -> other.count(w));
-        }
-        for (int task = 0; task < other.count(0); task++) {
-            compareTask(task);
-        }
-        for (int scope = 0; scope < other.count(3); scope++) {
-            for (int what = 0; what <= 7; what++) {
-                int s = scope;
-                int w = what;
-                same("scope " + s + " " + w, () -> mine.scope(s, w), () -> other.scope(s, w));
-            }
-        }
-        compareRest();
-    }
-
-    private void compareTask(int task) {
-        for (int what = 0; what <= 9; what++) {
-            int w = what;
-            same("task " + task + " " + w, () -> mine.task(task, w), () -> other.task(task, w));
-        }
-        for (int depth = 0; depth < 6; depth++) {
-            int d = depth;
-            same("failure code", () -> mine.failure(task, d, 0), () -> other.failure(task, d, 0));
-            same("failure task", () -> mine.failure(task, d, 1), () -> other.failure(task, d, 1));
-            same("scopeOf", () -> mine.scopeOf(task, d), () -> other.scopeOf(task, d));
-        }
-        int lower = upTo(23);
-        same("isAbove", () -> mine.isAbove(task, lower) ? 1 : 0, () -> other.isAbove(task, lower) ? 1 : 0);
-        same("ready", () -> mine.ready(task), () -> other.ready(task));
-        same("ended", () -> mine.ended(task), () -> other.ended(task));
-    }
-
-    private void compareRest() {
-        for (int channel = 0; channel < 4; channel++) {
-            for (int what = 0; what < 4; what++) {
-                int c = channel;
-                int w = what;
-                same("channel " + c + " " + w, () -> mine.channel(c, w), () -> other.channel(c, w));
-                same("content " + c + " " + w, () -> mine.content(c, w), () -> other.content(c, w));
-            }
-        }
-        for (int program = 0; program < 6; program++) {
-            for (int place = -1; place < 24; place++) {
-                int p = program;
-                int at = place;
-                same("program " + p, () -> mine.program(p, at), () -> other.program(p, at));
-            }
+    private void randomOtherQuestion(int kind, int task) {
+        int index = upTo(upTo(1) == 0 ? 3 : 23);
+        int channel = upTo(3);
+        int program = upTo(5);
+        if (kind < 74) {
+            both("next()", () -> mine.next(), () -> other.next());
+        } else if (kind < 76) {
+            both("errorPosition()", () -> mine.errorPosition(), () -> other.errorPosition());
+        } else if (kind < 80) {
+            int level = upTo(4);
+            both("scopeOf(" + task + ", " + level + ")", () -> mine.scopeOf(task, level),
+                () -> other.scopeOf(task, level));
+        } else if (kind < 84) {
+            both("ready(" + index + ")", () -> mine.ready(index), () -> other.ready(index));
+        } else if (kind < 88) {
+            both("ended(" + index + ")", () -> mine.ended(index), () -> other.ended(index));
+        } else if (kind < 90) {
+            both("isAbove(" + index + ", " + task + ")", () -> mine.isAbove(index, task) ? 1 : 0,
+                () -> other.isAbove(index, task) ? 1 : 0);
+        } else if (kind < 94) {
+            int what = upTo(3);
+            both("channel(" + channel + ", " + what + ")", () -> mine.channel(channel, what),
+                () -> other.channel(channel, what));
+        } else if (kind < 97) {
+            int place = upTo(2);
+            both("content(" + channel + ", " + place + ")", () -> mine.content(channel, place),
+                () -> other.content(channel, place));
+        } else {
+            int place = index - 1;
+            both("program(" + program + ", " + place + ")", () -> mine.program(program, place),
+                () -> other.program(program, place));
         }
     }
 }

@@ -46,9 +46,8 @@ public final class ReasonBoundsTest {
             t.task(program, 6, 3);
             t.task(program, 7, targets[program]);
             t.failure(program, 0, program + 1, program);
-            while (t.x.run(100) > 0) {
-                t.due("live tasks", () -> t.x.count(1), 0);
-            }
+            t.finish();
+            t.count(1, 0);
         }
         Trial ended = t.another().load("0:{)(!1);");
         ended.start(0, 0);
@@ -409,6 +408,22 @@ public final class ReasonBoundsTest {
         t.runAll(3);
         t.wholeTask(0, 6, 4);
         t.count(9, 1);
+    }
+
+    @Sentence(in = "Failures", says = "If the scope is closing, the failure of the child is suppressed.")
+    static void failureInAScopeThatADeadlineCloses(Trial t) {
+        t.load("0:{[1(p1<0)))+1;1:w1!5;");
+        t.start(0, 0);
+        t.run(9, 9);
+        t.scope(2, 3, 1);
+        t.wholeTask(0, 5, 0, 5, 3, -1, 0, 2, 1);
+        t.wholeTask(1, 0, 0, 2, 0, 2, 0, 3, -1);
+        t.run(1, 1);
+        t.task(1, 0, 7);
+        t.wholeTask(0, 0, 0, 5, 3, -1, 0, 2, 1);
+        t.count(9, 1);
+        t.runAll(5);
+        t.wholeTask(0, 6, 0, 9);
     }
 
     @Sentence(in = "Failures",

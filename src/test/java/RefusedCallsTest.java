@@ -9,71 +9,19 @@ public final class RefusedCallsTest {
         Sentences.test(RefusedCallsTest.class);
     }
 
-    /** Nearly everything is under way, and the buffer, the error position and the snapshot are of their own. */
-    private static Trial busy(Trial name) {
-        Trial t = name.another().load("#02;0:+1>0>0{p1p2[9(^5p3)));1:w3!7;2:>0<1+1;", "3:?12!4;4:<0>1<0;5:w1!5;");
-        t.start(1, 0);
-        t.save(1);
-        t.reset(1);
-        t.start(0, 0);
-        t.start(4, 1);
-        t.run(23, 23);
-        t.write("6");
-        t.dueThrow("execute()", () -> t.x.execute(), Trial.ARGUMENT);
-        t.write("0:+2");
-        return t;
-    }
-
-    private static String picture(CoroutineScheduler x) {
-        StringBuilder text = new StringBuilder();
-        for (int what = 0; what <= 12; what++) {
-            text.append(x.count(what)).append(' ');
-        }
-        for (int task = 0; task < x.count(0); task++) {
-            for (int what = 0; what < 10; what++) {
-                text.append(x.task(task, what)).append(' ');
-            }
-        }
-        for (int scope = 0; scope < x.count(3); scope++) {
-            for (int what = 2; what < 8; what++) {
-                text.append(x.scope(scope, what)).append(' ');
-            }
-        }
-        for (int channel = 0; channel < 4; channel++) {
-            for (int what = 0; what < 4; what++) {
-                text.append(x.channel(channel, what)).append(' ');
-            }
-        }
-        for (int program = 0; program < 6; program++) {
-            text.append(x.program(program, -1)).append(' ');
-        }
-        return text.append(x.errorPosition()).append(' ').append(x.next()).toString();
-    }
-
-    /** The course of the tasks, then the text of the buffer, then the snapshot: all that cannot be asked for at once. */
-    private static String future(CoroutineScheduler x) {
-        StringBuilder text = new StringBuilder();
-        while (x.run(1) == 1) {
-            text.append(x.next()).append(' ').append(x.count(9)).append(' ').append(x.count(10)).append(' ');
-        }
-        for (int task = 0; task < x.count(0); task++) {
-            int t = task;
-            text.append(x.task(task, 0)).append(' ').append(x.task(task, 1)).append(' ');
-            text.append(Checks.answerOf(() -> x.failure(t, 1, 0))).append(' ');
-            text.append(Checks.answerOf(() -> x.ended(t))).append(' ');
-        }
-        text.append(x.append(';' << 24)).append(' ').append(Checks.answerOf(() -> x.execute())).append(' ');
-        text.append(x.program(0, -1)).append(' ');
-        return text.append(Checks.answerOf(() -> x.restore())).append(' ').append(x.count(2)).toString();
-    }
-
     /** Of two schedulers in the same state, one refuses calls; afterwards both answer the same. */
     private static void unchanged(Trial name, Consumer<Trial> refusedCalls) {
-        Trial refusing = busy(name);
-        Trial other = busy(name);
+        Trial refusing = Busy.scheduler(name);
+        Trial other = Busy.scheduler(name);
         refusedCalls.accept(refusing);
-        name.expect("picture", picture(refusing.x), picture(other.x));
-        name.expect("future", future(refusing.x), future(other.x));
+        same(name, refusing, other);
+    }
+
+    private static void same(Trial name, Trial one, Trial other) {
+        name.expect("errorPosition()", one.x.errorPosition(), other.x.errorPosition());
+        name.expect("picture", Busy.picture(one.x), Busy.picture(other.x));
+        name.expect("course", Busy.course(one.x), Busy.course(other.x));
+        name.expect("rest", Busy.rest(one.x), Busy.rest(other.x));
     }
 
     @Sentence(in = "Description", says = "A method that throws an exception leaves the state unchanged")
@@ -94,34 +42,32 @@ public final class RefusedCallsTest {
         full.program(2, -1, 1);
     }
 
-    @Sentence(in = "Promise 3", says = "The buffer is empty afterwards, also if an exception is thrown; "
-        + "then no command is executed.")
-    static void afterExecuteOfAnError(Trial name) {
-        Trial refusing = busy(name);
-        Trial other = busy(name);
-        refusing.write(";1:;#01;2:z;");
-        refusing.dueThrow("execute()", () -> refusing.x.execute(), Trial.ARGUMENT);
-        refusing.errorPosition(15);
+    /** The buffer and the error position are not unchanged after execute, so they are made the same again. */
+    private static void afterExecute(Trial name, String text, Class<? extends RuntimeException> thrown, int error) {
+        Trial refusing = Busy.scheduler(name);
+        Trial other = Busy.scheduler(name);
+        refusing.write(text);
+        refusing.dueThrow("execute()", () -> refusing.x.execute(), thrown);
+        refusing.errorPosition(error);
+        refusing.count(12, 0);
         refusing.write("6");
         refusing.dueThrow("execute()", () -> refusing.x.execute(), Trial.ARGUMENT);
         refusing.write("0:+2");
-        name.expect("picture", picture(refusing.x), picture(other.x));
-        name.expect("future", future(refusing.x), future(other.x));
+        same(name, refusing, other);
+    }
+
+    @Sentence(in = "Promise 3", says = "The buffer is empty afterwards, also if an exception is thrown; "
+        + "then no command is executed.")
+    static void afterExecuteOfAnError(Trial name) {
+        afterExecute(name, ";1:;#01;2:z;", Trial.ARGUMENT, 15);
+        afterExecute(name, ";1:;2:y;3", Trial.ARGUMENT, 13);
     }
 
     @Sentence(in = "Promise 3", says = "The buffer is empty afterwards, also if an exception is thrown; "
         + "then no command is executed.")
     static void afterExecuteOfARoom(Trial name) {
-        Trial refusing = busy(name);
-        Trial other = busy(name);
-        refusing.write(";1:;#33;2:y;");
-        refusing.dueThrow("execute()", () -> refusing.x.execute(), Trial.STATE);
-        refusing.errorPosition(-1);
-        refusing.write("6");
-        refusing.dueThrow("execute()", () -> refusing.x.execute(), Trial.ARGUMENT);
-        refusing.write("0:+2");
-        name.expect("picture", picture(refusing.x), picture(other.x));
-        name.expect("future", future(refusing.x), future(other.x));
+        afterExecute(name, ";1:;#33;2:y;", Trial.STATE, -1);
+        afterExecute(name, ";#02;", Trial.STATE, -1);
     }
 
     @Sentence(in = "Description", says = "A method that throws an exception leaves the state unchanged")
@@ -226,8 +172,7 @@ public final class RefusedCallsTest {
         other.write("5:");
         refusing.dueThrow("restore()", () -> refusing.x.restore(), Trial.STATE);
         refusing.dueThrow("restore()", () -> refusing.x.restore(), Trial.STATE);
-        name.expect("picture", picture(refusing.x), picture(other.x));
-        name.expect("future", future(refusing.x), future(other.x));
+        same(name, refusing, other);
     }
 
     // Which exception

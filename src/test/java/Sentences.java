@@ -17,6 +17,9 @@ final class Sentences {
     static void test(Class<?> tests) {
         Checks checks = new Checks();
         String document = read(DOCUMENT);
+        if (document.isEmpty()) {
+            System.out.println("the quotations are not compared, for there is no " + DOCUMENT);
+        }
         Method[] methods = tests.getDeclaredMethods();
         Arrays.sort(methods, Comparator.comparing(Method::getName));
         int made = 0;
@@ -24,7 +27,8 @@ final class Sentences {
             Sentence sentence = method.getAnnotation(Sentence.class);
             if (sentence != null) {
                 String name = method.getName() + " (" + sentence.in() + ": \"" + sentence.says() + "\")";
-                checks.expect(name + " quotes the document", "" + stands(sentence, document), "true");
+                boolean quotes = document.isEmpty() || stands(sentence, document);
+                checks.expect(name + " quotes the document", "" + quotes, "true");
                 run(method, name, checks);
                 made++;
             }
@@ -60,7 +64,7 @@ final class Sentences {
 
     private static String read(Path path) {
         try {
-            return Files.readString(path);
+            return Files.exists(path) ? Files.readString(path) : "";
         } catch (IOException thrown) {
             throw new UncheckedIOException(thrown);
         }

@@ -45,70 +45,24 @@ public final class SnapshotsTest {
         return t;
     }
 
-    private static String picture(CoroutineScheduler x) {
-        StringBuilder text = new StringBuilder();
-        for (int what = 0; what < 12; what++) {
-            text.append(x.count(what)).append(' ');
-        }
-        for (int task = 0; task < x.count(0); task++) {
-            for (int what = 0; what < 10; what++) {
-                text.append(x.task(task, what)).append(' ');
-            }
-            for (int depth = 0; depth < 5; depth++) {
-                int t = task;
-                int d = depth;
-                text.append(Checks.answerOf(() -> x.failure(t, d, 0))).append(' ');
-                text.append(Checks.answerOf(() -> x.scopeOf(t, d))).append(' ');
-            }
-        }
-        for (int scope = 0; scope < x.count(3); scope++) {
-            for (int what = 0; what < 8; what++) {
-                text.append(x.scope(scope, what)).append(' ');
-            }
-        }
-        for (int index = 0; index < 24; index++) {
-            int i = index;
-            text.append(Checks.answerOf(() -> x.ready(i))).append(' ');
-            text.append(Checks.answerOf(() -> x.ended(i))).append(' ');
-        }
-        for (int channel = 0; channel < 4; channel++) {
-            for (int what = 0; what < 4; what++) {
-                int c = channel;
-                int w = what;
-                text.append(x.channel(c, w)).append(' ');
-                text.append(Checks.answerOf(() -> x.content(c, w))).append(' ');
-            }
-        }
-        for (int program = 0; program < 6; program++) {
-            for (int place = -1; place < x.program(program, -1); place++) {
-                text.append(x.program(program, place)).append(' ');
-            }
-        }
-        return text.append(x.next()).toString();
+    private static void same(CoroutineScheduler restored, CoroutineScheduler other) {
+        CHECKS.expect("picture", Busy.picture(restored), Busy.picture(other));
+        CHECKS.expect("course", Busy.course(restored), Busy.course(other));
     }
 
     private static void restoreBringsAllBack() {
-        Trial t = busy("restore");
-        String before = picture(t.x);
-        t.due("save()", () -> t.x.save(), 5);
-        CHECKS.expect("picture after save", picture(t.x), before);
-        StringBuilder course = new StringBuilder();
-        while (t.x.run(1) == 1) {
-            course.append(picture(t.x)).append('\n');
-        }
-        for (int round = 0; round < 2; round++) {
-            t.load("0:;1:yyyyy;2:;3:;4:;5:!1;");
-            t.due("start(1)", () -> t.x.start(1), 5);
-            t.run(99, 6);
-            t.x.reset();
-            t.load("#00;#11;#22;#33;");
-            t.due("restore()", () -> t.x.restore(), 5);
-            CHECKS.expect("picture after restore", picture(t.x), before);
-            StringBuilder again = new StringBuilder();
-            while (t.x.run(1) == 1) {
-                again.append(picture(t.x)).append('\n');
+        for (int rounds = 0; rounds < 3; rounds++) {
+            Trial t = busy("restore");
+            t.due("save()", () -> t.x.save(), 5);
+            for (int round = 0; round < rounds; round++) {
+                t.load("0:;1:yyyyy;2:;3:;4:;5:!1;");
+                t.due("start(1)", () -> t.x.start(1), 5);
+                t.run(99, 17);
+                t.x.reset();
+                t.load("#00;#11;#22;#33;");
+                t.due("restore()", () -> t.x.restore(), 5);
             }
-            CHECKS.expect("course after restore", again.toString(), course.toString());
+            same(t.x, busy("not restored").x);
         }
     }
 
@@ -154,21 +108,21 @@ public final class SnapshotsTest {
         t.dueThrow("task(2, 0)", () -> t.x.task(2, 0), Trial.INDEX);
     }
 
-    /** Other tasks, scopes, cleanups, failures and numbers stand where those of the snapshot stood. */
-    private static void restoreOverOtherTasks() {
-        Trial t = trial("restore over other tasks").load("#01;#11;0:+2>0({^1[9^2p3?12)));1:w1-1!6;2:w2+3;",
+    private static Trial cleaningUp(String name) {
+        Trial t = trial(name).load("#01;#11;0:+2>0({^1[9^2p3?12)));1:w1-1!6;2:w2+3;",
             "3:+6(^1{^2!8));4:w1(!9);5:+7>1>1w1;");
         t.start(0, 0);
         t.start(4, 1);
         t.start(5, 2);
         t.start(5, 3);
         t.run(27, 27);
+        return t;
+    }
+
+    /** Other tasks, scopes, cleanups, failures and numbers stand where those of the snapshot stood. */
+    private static void restoreOverOtherTasks() {
+        Trial t = cleaningUp("restore over other tasks");
         t.due("save()", () -> t.x.save(), 5);
-        String before = picture(t.x);
-        StringBuilder course = new StringBuilder();
-        while (t.x.run(1) == 1) {
-            course.append(picture(t.x)).append('\n');
-        }
         t.x.reset();
         t.load("#00;#12;0:-9{(^3[1^4^4(^5(p1w3)))));1:?23!1;2:!2;3:w9w9!3;", "4:+8;5:((((y))))!5;");
         for (int task = 0; task < 11; task++) {
@@ -178,25 +132,19 @@ public final class SnapshotsTest {
         t.x.cancel(0);
         t.x.run(7);
         t.due("restore()", () -> t.x.restore(), 5);
-        CHECKS.expect("picture", picture(t.x), before);
-        StringBuilder again = new StringBuilder();
-        while (t.x.run(1) == 1) {
-            again.append(picture(t.x)).append('\n');
-        }
-        CHECKS.expect("course", again.toString(), course.toString());
-        CHECKS.expect("course has many turns", "" + (course.toString().lines().count() > 20), "true");
+        same(t.x, cleaningUp("not restored").x);
     }
 
     private static void restoreAfterReset() {
         Trial t = busy("restore after reset");
-        String before = picture(t.x);
+        String before = Busy.picture(t.x);
         t.due("save()", () -> t.x.save(), 5);
         t.due("reset()", () -> t.x.reset(), 3);
         t.count(0, 0);
         t.start(4, 0);
         t.run(9, 1);
         t.due("restore()", () -> t.x.restore(), 5);
-        CHECKS.expect("picture", picture(t.x), before);
+        CHECKS.expect("picture", Busy.picture(t.x), before);
         t.due("reset()", () -> t.x.reset(), 3);
         t.due("save()", () -> t.x.save(), 0);
         t.start(4, 0);

@@ -4,14 +4,13 @@ public final class TaskBoundsTest {
         Sentences.test(TaskBoundsTest.class);
     }
 
-    /** Starts tasks of a program and makes all turns, until so many tasks were made. */
+    /** Starts tasks of a program, up to a number of tasks, and makes all turns. */
     private static void fill(Trial t, int program, int tasks) {
         for (int task = t.x.count(0); task < tasks; task++) {
             t.start(program, task);
         }
-        while (t.x.run(100) == 100) {
-            t.due("still no more tasks", () -> t.x.count(0), tasks);
-        }
+        t.finish();
+        t.count(0, tasks);
     }
 
     // Tasks
@@ -178,6 +177,50 @@ public final class TaskBoundsTest {
         t.task(0, 1, 2);
         t.runAll(3);
         t.task(0, 1, 2);
+    }
+
+    // What programs do with scopes
+
+    @Sentence(in = "Programs", says = "^q: q becomes the cleanup of the innermost scope.")
+    static void cleanupOfTheInnermostScope(Trial t) {
+        t.load("0:(^1(^2^3)(y));1:+1;2:+2;3:+4;");
+        t.start(0, 0);
+        t.run(5, 5);
+        t.scope(0, 7, 1);
+        t.scope(1, 7, 1);
+        t.run(4, 4);
+        t.task(0, 1, 4);
+        t.scope(1, 3, 2);
+        t.scope(0, 7, 1);
+        t.run(3, 3);
+        t.scope(2, 3, 2);
+        t.scope(2, 7, 0);
+        t.task(0, 1, 4);
+        t.runAll(5);
+        t.task(0, 1, 5);
+        t.count(8, 2);
+    }
+
+    @Sentence(in = "Programs", says = "x: cancel the live children of the innermost scope.")
+    static void cancelInTheInnermostScope(Trial t) {
+        t.load("0:(xp1p2(p1p1p2yx));1:<0;2:;");
+        t.start(1, 0);
+        t.start(0, 1);
+        t.run(15, 15);
+        t.endings(3, 6);
+        t.queue(1);
+        t.run(1, 1);
+        t.queue(4, 5, 1);
+        t.wholeTask(4, 0, 0, 1, 0, 1, 0, 1, -1);
+        t.wholeTask(5, 0, 0, 1, 0, 1, 0, 1, -1);
+        t.wholeTask(6, 6, 0, 0, 0, 1, 0, 0, -2);
+        t.wholeTask(2, 3, 0, 1, 0, 0, 0, 0, -2);
+        t.wholeTask(1, 0, 0, 10, 2, -1, 0, 0, -2);
+        t.wholeTask(0, 3, 0, 1, 0, -1, 0, 0, -2);
+        t.scope(1, 3, 0);
+        t.runAll(4);
+        t.endings(3, 6, 4, 5);
+        t.wholeTask(1, 5, 0, 11, 1);
     }
 
     // Scopes

@@ -329,6 +329,9 @@ public final class TextBoundsTest {
         t.refuses("0:#00;", 2);
         t.refuses("##;", 1);
         t.refuses("#00:", 3);
+        t.refuses("#00<", 3);
+        t.refuses("0;y;", 1);
+        t.refuses("09y;", 1);
         t.refuses(":y;", 0);
         t.refuses(";", 0);
         t.refuses("00:y;", 1);

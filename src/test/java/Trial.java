@@ -167,18 +167,22 @@ final class Trial {
         dueThrow("content(" + channel + ", " + want.length + ")", () -> x.content(channel, want.length), ELEMENT);
     }
 
-    /** Makes all turns that can be made, one hundred at a time, and compares how many there were. */
-    void runAll(int want) {
-        int most = 2000;
-        due("turns to the end", () -> {
-            int made = 0;
-            int last = 100;
-            while (last == 100 && made < most) {
-                last = x.run(100);
-                made += last;
+    /** Makes all turns that can be made, as far as tasks can need them; answers how many there were. */
+    int finish() {
+        int made = 0;
+        for (int round = 0; round < 20; round++) {
+            int last = x.run(100);
+            made += last;
+            if (last < 100) {
+                return made;
             }
-            return made;
-        }, want);
+        }
+        return made;
+    }
+
+    /** Makes all turns that can be made, and compares how many there were. */
+    void runAll(int want) {
+        due("turns to the end", () -> finish(), want);
     }
 
     /** Compares the whole ready queue. */

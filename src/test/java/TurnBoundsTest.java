@@ -560,6 +560,20 @@ public final class TurnBoundsTest {
         t.task(3, 7, 0);
     }
 
+    @Sentence(in = "Time", says = "then all tasks that wake become ready, in ascending order; "
+        + "then all deadlines that pass, in the order of the scopes, interrupt the owners of their scopes")
+    static void wakesAtItsDeadline(Trial t) {
+        t.load("0:[2w2+5)+1;1:w2;");
+        t.start(0, 0);
+        t.start(1, 1);
+        t.run(4, 4);
+        t.count(5, 2);
+        t.queue(0, 1);
+        t.wholeTask(0, 0, 0, 2, 1, -1, 0, 2, 0, 0, -1);
+        t.runAll(4);
+        t.wholeTask(0, 6, 0, 5);
+    }
+
     @Sentence(in = "Time", says = "interrupt the owners of their scopes, unless the scope is closing")
     static void deadlineOfAClosingScope(Trial t) {
         t.load("0:{[3^1!4));1:w5;2:{[3^1)y);");
