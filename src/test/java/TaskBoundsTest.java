@@ -66,6 +66,43 @@ public final class TaskBoundsTest {
         t.wholeTask(1, 0, 0, 0, 0, -1, 0, 0, -2, 0, -1);
     }
 
+    @Sentence(in = "Tasks", says = "the scope that it opened last is its innermost one")
+    static void innermostScope(Trial t) {
+        t.load("0:(()(p1p1));1:<0;");
+        t.start(0, 0);
+        t.run(5, 5);
+        t.scope(0, 5, 0);
+        t.scope(1, 5, 0);
+        t.scope(2, 5, 1);
+        t.task(0, 3, 2);
+        t.scopeOf(0, 1, 2);
+        t.cancel(0, 0);
+        t.run(2, 2);
+        t.scope(2, 3, 1);
+        t.scope(0, 3, 0);
+    }
+
+    @Sentence(in = "Tasks", says = "The status of a task is 0 ready, 1 sleeping, 2 sending, 3 receiving, 4 choosing, "
+        + "5 joining, 6 done, 7 failed or 8 cancelled")
+    static void statusOfEachKind(Trial t) {
+        t.load("0:;1:w9;2:>0;3:<1;4:?12;5:(p1);");
+        for (int program = 0; program < 6; program++) {
+            t.start(program, program);
+            t.task(program, 0, 0);
+        }
+        t.run(9, 9);
+        int[] want = {6, 1, 2, 3, 4, 5, 1};
+        for (int task = 0; task < want.length; task++) {
+            t.task(task, 0, want[task]);
+        }
+        t.load("0:!1;");
+        t.start(0, 7);
+        t.cancel(2, 0);
+        t.run(3, 3);
+        t.task(7, 0, 7);
+        t.task(2, 0, 8);
+    }
+
     @Sentence(in = "Tasks", says = "so levels begin with 0")
     static void levelsBeginWithZero(Trial t) {
         t.load("0:(([9{()()))))(y);");
@@ -409,7 +446,8 @@ public final class TaskBoundsTest {
 
     // Closing
 
-    @Sentence(in = "Closing", says = "if the innermost scope has live children, the task joins, and the place does not move")
+    @Sentence(in = "Closing",
+        says = "if the innermost scope has live children, the task joins, and the place does not move")
     static void joinsLiveChildren(Trial t) {
         t.load("0:(p1(p2));1:w1;2:;");
         t.start(0, 0);
@@ -427,7 +465,8 @@ public final class TaskBoundsTest {
     }
 
     @Sentence(in = "Closing",
-        says = "Otherwise, if it has a cleanup that was not begun, the task begins to execute it, and the place does not move.")
+        says = "Otherwise, if it has a cleanup that was not begun, the task begins to execute it, "
+            + "and the place does not move.")
     static void beginsTheCleanup(Trial t) {
         t.load("0:(^1);1:;2:();");
         t.start(0, 0);
@@ -452,7 +491,8 @@ public final class TaskBoundsTest {
     }
 
     @Sentence(in = "Closing",
-        says = "Otherwise, if it has a cleanup that was not begun, the task begins to execute it, and the place does not move.")
+        says = "Otherwise, if it has a cleanup that was not begun, the task begins to execute it, "
+            + "and the place does not move.")
     static void joinsBeforeTheCleanup(Trial t) {
         t.load("0:(^1p2);1:+5;2:w2;");
         t.start(0, 0);
@@ -484,7 +524,8 @@ public final class TaskBoundsTest {
         t.dueThrow("scopeOf(0, 0)", () -> t.x.scopeOf(0, 0), Trial.INDEX);
     }
 
-    @Sentence(in = "Closing", says = "When a task ends, it interrupts the owner of its scope, if it has failed, as told.")
+    @Sentence(in = "Closing",
+        says = "When a task ends, it interrupts the owner of its scope, if it has failed, as told.")
     static void onlyTheFailedInterrupts(Trial t) {
         t.load("0:(p1p2w9p3w9);1:;2:<0;3:!6;4:!7;");
         t.start(0, 0);
@@ -561,7 +602,8 @@ public final class TaskBoundsTest {
         receiver.queue();
     }
 
-    @Sentence(in = "Closing", says = "A task that joins for the reason that it is interrupted stays joining until then.")
+    @Sentence(in = "Closing",
+        says = "A task that joins for the reason that it is interrupted stays joining until then.")
     static void staysJoining(Trial t) {
         t.load("0:{(p1p2w1!4));1:(^3<0);2:<0;3:w4;");
         t.start(0, 0);

@@ -132,6 +132,19 @@ public final class TextBoundsTest {
         t.task(0, 9, -1);
     }
 
+    @Sentence(in = "Programs", says = "y: yield.")
+    static void yieldIsATurn(Trial t) {
+        t.load("0:y+1;1:+2;");
+        t.start(0, 0);
+        t.start(1, 1);
+        t.run(1, 1);
+        t.wholeTask(0, 0, 0, 1);
+        t.queue(1, 0);
+        t.run(2, 2);
+        t.task(1, 1, 2);
+        t.task(0, 1, 1);
+    }
+
     @Sentence(in = "Programs", says = "z: if the register is 0, the next instruction is skipped.")
     static void skipAtZeroAlone(Trial t) {
         t.load("0:z+5;1:+1z+5;2:-1z+5;");
@@ -436,6 +449,19 @@ public final class TextBoundsTest {
         t.program(1, 2, code('+', 1));
     }
 
+    @Sentence(in = "Promise 2", says = "Returns the number of characters in the buffer.")
+    static void numberOfCharacters(Trial t) {
+        t.append("0:yy", 4);
+        t.append("y", 5);
+        t.append("", 5);
+        t.dueThrow("append of a space", () -> t.x.append(' '), Trial.ARGUMENT);
+        t.append(";", 6);
+        t.due("execute()", () -> t.x.execute(), 1);
+        t.append("1:", 2);
+        t.reset(0);
+        t.append(";", 3);
+    }
+
     @Sentence(in = "Promise 2", says = "if a byte that is not 0 is not from 33 to 126")
     static void bytesFrom33To126(Trial t) {
         int made = 0;
@@ -581,6 +607,15 @@ public final class TextBoundsTest {
         t.errorPosition(6);
     }
 
+    @Sentence(in = "Promise 4", says = "Returns the index of the character")
+    static void indexOfTheCharacter(Trial t) {
+        t.refuses("6", 0);
+        t.refuses("0:+1+2q", 6);
+        String text = "0:" + FULL + ";1:" + FULL + ";2:yyyq";
+        t.refuses(text, 59);
+        t.refuses(text.replace("q", "y"), 60);
+    }
+
     @Sentence(in = "Promise 4", says = "or -1 if that text had no error or execute was not called")
     static void noError(Trial t) {
         t.errorPosition(-1);
@@ -617,7 +652,8 @@ public final class TextBoundsTest {
         t.program(4, -1, 0);
     }
 
-    @Sentence(in = "Promise 5", says = "100 times the character code of the instruction plus its operand, 0 without one")
+    @Sentence(in = "Promise 5",
+        says = "100 times the character code of the instruction plus its operand, 0 without one")
     static void partOfAProgram(Trial t) {
         t.load("0:+1-9w1[9(^0p5x));1:{y)zyy>0<3!9;");
         int[] first = {4301, 4509, 11901, 9109, 4000, 9400, 11205, 12000, 4100, 4100};

@@ -157,8 +157,8 @@ public final class TextTest {
             "zz;", "(;", "{(y);", "((((((", "([1{([1{", "((((([", "((((()((", "q", "0", "+12", "~", "yY", "()()(;"}) {
             error("0:" + wrong + ";y", 1 + wrong.length());
         }
-        for (String unfinished : new String[] {"", "0", "0:", "0:y", "0:+", "0:?", "0:?0", "0:(", "0:[", "0:z", "#", "#0",
-            "#00", "0:;1", "0:;#", "0:(p", "0:(p0", "0:(p0)", "0:y;#00;5:"}) {
+        for (String unfinished : new String[] {"", "0", "0:", "0:y", "0:+", "0:?", "0:?0", "0:(", "0:[", "0:z", "#",
+            "#0", "#00", "0:;1", "0:;#", "0:(p", "0:(p0", "0:(p0)", "0:y;#00;5:"}) {
             error(unfinished, unfinished.length());
         }
         String full = "yyyyyyyyyyyyyyyyyyyyyyyy";

@@ -174,6 +174,26 @@ public final class TurnBoundsTest {
         t.count(8, 1);
     }
 
+    @Sentence(in = "Turns", says = "Otherwise the scope has ended and is no longer open")
+    static void interruptedScopeHasEnded(Trial t) {
+        t.load("0:(([1w9)));");
+        t.start(0, 0);
+        t.run(4, 4);
+        t.cancel(0, 0);
+        for (int scope = 2; scope >= 0; scope--) {
+            int level = scope;
+            t.scope(scope, 3, 0);
+            t.run(1, 1);
+            t.scope(scope, 3, 2);
+            t.task(0, 3, scope);
+            t.count(4, scope);
+            t.dueThrow("scopeOf", () -> t.x.scopeOf(0, level), Trial.INDEX);
+        }
+        t.task(0, 0, 0);
+        t.runAll(1);
+        t.count(5, 0);
+    }
+
     @Sentence(in = "Turns", says = "if its level was the target of the reason, the task has no reason any more")
     static void levelOfTheTarget(Trial t) {
         t.load("0:({([1(!4))))+1);");
@@ -231,6 +251,24 @@ public final class TurnBoundsTest {
         t.failure(2, 0, 9, 2);
         t.run(1, 1);
         t.task(2, 1, 2);
+    }
+
+    @Sentence(in = "Turns", says = "If it has a reason and no open scopes")
+    static void endsOnceNoScopeIsOpen(Trial t) {
+        t.load("0:(y)y;1:y;");
+        t.start(0, 0);
+        t.start(1, 1);
+        t.run(3, 3);
+        t.cancel(0, 0);
+        t.cancel(1, 0);
+        t.run(1, 1);
+        t.task(1, 0, 8);
+        t.task(0, 0, 0);
+        t.run(1, 1);
+        t.wholeTask(0, 0, 0, 2, 0, -1, 0, 1, -1);
+        t.run(1, 1);
+        t.task(0, 0, 8);
+        t.endings(1, 0);
     }
 
     @Sentence(in = "Turns",
@@ -352,6 +390,21 @@ public final class TurnBoundsTest {
         t.wholeTask(0, 6, 7, 6);
         t.count(8, 1);
         t.count(9, 0);
+    }
+
+    @Sentence(in = "Turns", says = "If the task has no reason, its failure interrupts the task as usual")
+    static void failureWithoutAReasonInACleanup(Trial t) {
+        t.load("0:{(^1)y)+1;1:+2!9;");
+        t.start(0, 0);
+        t.run(5, 5);
+        t.task(0, 6, 0);
+        t.run(1, 1);
+        t.wholeTask(0, 0, 2, 3, 2, -1, 0, 3, 0, 0);
+        t.failure(0, 0, 9, 0);
+        t.noFailure(0, 1);
+        t.count(9, 0);
+        t.run(2, 2);
+        t.wholeTask(0, 0, 9, 6, 0, -1, 0, 0, -2);
     }
 
     @Sentence(in = "Turns", says = "but comes from the scope outside the one with the cleanup")
